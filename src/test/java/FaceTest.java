@@ -1,0 +1,47 @@
+import java.lang.reflect.Field;
+import java.lang.reflect.Method;
+import java.lang.reflect.Modifier;
+import java.util.Arrays;
+import java.util.TreeSet;
+
+/** The public face of the document, and that nothing else stands beside it. */
+public final class FaceTest {
+    private static final String FACE = "appendInput(int,int,int,int,int):int truncateInput(int):boolean loadLifts():int "
+        + "errorCode():int errorOffset():int count(int):int car(int,int):int call(int,int):int waitOf(int):int "
+        + "holds(int,int):boolean ownCost(int,int):int decides(int,int):int noted(int,int,int):int costNow(int,int):int "
+        + "held(int,int):int goal(int):int messages(int,boolean):int hasLost(int,int,int):boolean nobody(int):int "
+        + "makeCall(int,int):int run(int):int setStopped(int,boolean):boolean setJammed(int,boolean):boolean "
+        + "set(int,int):int forget(int,int):int longestWait():int meanWait():double lateShare():float doubles():int "
+        + "orphans():int ride(int):int busiest():int fullestFloor():int riders(int):int served(int):int meanRide():double "
+        + "knownBest(int,int):int cheapest(int):int allRounds():int claimLeft(int):int lateIn(int):int "
+        + "crowd(int,boolean):int meanCost(int):double waitsWithin(int,int):int mostRounds():int aboardIn(int,int):int "
+        + "doneIn(int):int nobodyIn(int):int bestNoise(int):int wouldWait(int,int):int bestPatience(int):int "
+        + "printCar(int):int outputByte(int):int undo():int saveState():int restoreState():int";
+
+    public static void main(String[] arguments) throws IllegalAccessException {
+        Due due = new Due();
+        due.promise(0, "the public face");
+        TreeSet<String> methods = new TreeSet<>();
+        TreeSet<String> names = new TreeSet<>();
+        for (Method method : BusLifts.class.getDeclaredMethods()) {
+            if (!Modifier.isPrivate(method.getModifiers()) && !method.isSynthetic()) {
+                String types = Arrays.toString(Arrays.stream(method.getParameterTypes()).map(Class::getName).toArray());
+                methods.add(method.getName() + "(" + types.replaceAll("[\\[\\] ]", "") + "):" + method.getReturnType());
+                names.add(method.getName());
+            }
+        }
+        due.isText("the methods", methods.toString(), new TreeSet<>(Arrays.asList(FACE.split(" "))).toString());
+        due.is("the methods have different names", names.size(), methods.size());
+        due.is("constructors", BusLifts.class.getDeclaredConstructors().length, 1);
+        due.is("the class is public and final", BusLifts.class.getModifiers(), Modifier.PUBLIC | Modifier.FINAL);
+
+        TreeSet<String> fields = new TreeSet<>();
+        for (Field field : BusLifts.class.getDeclaredFields()) {
+            if (!Modifier.isPrivate(field.getModifiers())) {
+                fields.add(field.getName() + "=" + field.getInt(null));
+            }
+        }
+        due.isText("the constants", fields.toString(), "[MISPLACED=3, NO_CAR=4, NO_ERROR=0, OUT_OF_RANGE=2, SYNTAX=1]");
+        due.end();
+    }
+}
