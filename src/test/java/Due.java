@@ -92,6 +92,15 @@ final class Due {
         return lifts;
     }
 
+    /** The output in a text. */
+    static String output(BusLifts lifts) {
+        StringBuilder text = new StringBuilder();
+        for (int index = 0; lifts.outputByte(index) >= 0; index++) {
+            text.append((char) lifts.outputByte(index));
+        }
+        return text.toString();
+    }
+
     /** All that the questions tell about the lifts, in one text. */
     static String all(BusLifts lifts) {
         StringBuilder text = new StringBuilder();

@@ -32,6 +32,11 @@ public final class FaceTest {
         }
         due.isText("the methods", methods.toString(), new TreeSet<>(Arrays.asList(FACE.split(" "))).toString());
         due.is("the methods have different names", names.size(), methods.size());
+        for (Method method : BusLifts.class.getDeclaredMethods()) {
+            if (Modifier.isPrivate(method.getModifiers())) {
+                due.is("a private method named " + method.getName(), names.contains(method.getName()), false);
+            }
+        }
         due.is("constructors", BusLifts.class.getDeclaredConstructors().length, 1);
         due.is("the class is public and final", BusLifts.class.getModifiers(), Modifier.PUBLIC | Modifier.FINAL);
 

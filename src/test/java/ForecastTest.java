@@ -168,30 +168,22 @@ public final class ForecastTest {
         due.isText("all restored", Due.all(lifts), before);
     }
 
-    private static String output(BusLifts lifts) {
-        StringBuilder text = new StringBuilder();
-        for (int index = 0; lifts.outputByte(index) >= 0; index++) {
-            text.append((char) lifts.outputByte(index));
-        }
-        return text.toString();
-    }
-
     private static void printing() {
         due.promise(53, "printCar");
         BusLifts lifts = Due.behind(4, "floors 10;car 0 1;call 0 0 5;call 0 0 7;call 0 5 6;call 0 3 8;");
         due.is("bytes", lifts.printCar(0), 10);
-        due.isText("someone aboard before a held call", output(lifts), "O..-.+....");
+        due.isText("someone aboard before a held call", Due.output(lifts), "O..-.+....");
         lifts.run(3);
         lifts.printCar(0);
-        due.isText("a held call below", output(lifts), "-.O-.+....");
+        due.isText("a held call below", Due.output(lifts), "-.O-.+....");
         BusLifts two = Due.behind(4, "floors 10;car 0 2;car 9 2;call 0 3 6;call 0 7 1;");
         two.printCar(1);
-        due.isText("car 1", output(two), ".......-O.");
+        due.isText("car 1", Due.output(two), ".......-O.");
         two.printCar(0);
-        due.isText("in place of it", output(two), ".O.-......");
+        due.isText("in place of it", Due.output(two), ".O.-......");
         due.isThrown("car 2", INDEX, () -> two.printCar(2));
         due.isThrown("car -1", INDEX, () -> two.printCar(-1));
-        due.isText("no change then", output(two), ".O.-......");
+        due.isText("no change then", Due.output(two), ".O.-......");
         due.is("the most floors", Due.loaded("floors 30;car 29 1;").printCar(0), 30);
         due.is("the least floors", new BusLifts().printCar(0), 2);
 
@@ -203,7 +195,7 @@ public final class ForecastTest {
         due.is("without output", new BusLifts().outputByte(0), -1);
         Due.load(two, "floors 3;car 2 1;");
         two.printCar(0);
-        due.isText("a shorter one", output(two), "..O");
+        due.isText("a shorter one", Due.output(two), "..O");
         due.is("behind it", two.outputByte(3), -1);
         due.is("O", two.outputByte(2), 79);
     }

@@ -1,10 +1,5 @@
-import java.lang.reflect.InvocationTargetException;
-import java.lang.reflect.Method;
-import java.lang.reflect.Modifier;
 import java.util.ArrayList;
-import java.util.HashMap;
 import java.util.List;
-import java.util.Map;
 import java.util.Random;
 
 /** Runs of calls with written-down seeds on BusLifts and on PlainLifts, answer by answer. */
@@ -20,20 +15,20 @@ public final class ModelTest {
         "lateIn T", "crowd f b", "meanCost k", "waitsWithin l l", "mostRounds", "aboardIn k T", "doneIn T",
         "nobodyIn T", "bestNoise t", "wouldWait f f", "bestPatience t", "printCar c", "outputByte i", "undo", "undo",
         "saveState", "restoreState", "loadLifts"};
-
-    private static final Map<String, Method> REAL = publicMethods(BusLifts.class);
-    private static final Map<String, Method> PLAIN = publicMethods(PlainLifts.class);
+    /** What makes cars meet at the same calls, some ticks at a time. */
+    private static final String[] BUSY_METHODS = {"run u", "run u", "run u", "run u", "run u", "run u", "setStopped c b",
+        "setStopped c b", "setJammed c b", "setJammed c b", "makeCall f f", "forget c k", "nobodyIn T", "aboardIn k T", "undo"};
 
     private final Random random;
-    private final BusLifts lifts = new BusLifts();
-    private final PlainLifts plain = new PlainLifts();
+    private final Twins twins;
+    private final BusLifts lifts;
     private int floors = 2;
     private int cars = 1;
-    private final Due due;
 
     private ModelTest(long seed, Due due) {
         random = new Random(seed);
-        this.due = due;
+        twins = new Twins(due);
+        lifts = twins.lifts;
     }
 
     public static void main(String[] arguments) {
@@ -41,6 +36,9 @@ public final class ModelTest {
         Due due = new Due();
         for (int run = 0; run < runs; run++) {
             new ModelTest(run, due).play(run);
+        }
+        for (int run = 0; run < 5 * runs; run++) {
+            new ModelTest(run, due).playBusy(run);
         }
         for (int run = 0; run < 40 * runs; run++) {
             new ModelTest(run, due).playText(run);
@@ -50,12 +48,12 @@ public final class ModelTest {
 
     private void play(int run) {
         if (run % 10 != 0) {
-            feed(setup());
+            twins.feed(setup());
             step(run, -1, "loadLifts");
         }
         for (int number = 0; number < 120; number++) {
             if (random.nextInt(60) == 0) {
-                feed(random.nextInt(3) == 0 ? spoiled(setup()) : setup());
+                twins.feed(random.nextInt(3) == 0 ? spoiled(setup()) : setup());
                 step(run, number, "loadLifts");
             }
             step(run, number, METHODS[random.nextInt(METHODS.length)]);
@@ -66,30 +64,39 @@ public final class ModelTest {
         askAll(run, 120);
     }
 
+    private void playBusy(int run) {
+        floors = 4 + random.nextInt(9);
+        cars = 2 + random.nextInt(3);
+        StringBuilder text = new StringBuilder("floors ").append(floors).append(";");
+        for (int car = 0; car < cars; car++) {
+            text.append("car ").append(random.nextInt(floors)).append(' ').append(1 + random.nextInt(3)).append(';');
+        }
+        int calls = 2 + random.nextInt(12);
+        for (int call = 0; call < calls; call++) {
+            int from = random.nextInt(floors);
+            int to = (from + 1 + random.nextInt(floors - 1)) % floors;
+            text.append("call ").append(random.nextInt(20)).append(' ').append(from).append(' ').append(to).append(';');
+        }
+        text.append("noise ").append(random.nextInt(61)).append(";patience ").append(3 + random.nextInt(3));
+        text.append(";seed ").append(random.nextInt(10000)).append(";door ").append(random.nextInt(3)).append(';');
+        twins.feed(text.toString());
+        step(run, -1, "loadLifts");
+        for (int number = 0; number < 50; number++) {
+            step(run, number, BUSY_METHODS[random.nextInt(BUSY_METHODS.length)]);
+            if (number % 5 == 0) {
+                askAll(run, number);
+            }
+        }
+    }
+
     private void playText(int run) {
         for (int number = 0; number < 5; number++) {
-            feed(spoiled(setup()));
+            twins.feed(spoiled(setup()));
             step(run, number, "loadLifts");
             step(run, number, "errorCode");
             step(run, number, "errorOffset");
         }
         askAll(run, 5);
-    }
-
-    private void feed(String text) {
-        byte[] bytes = new byte[(text.length() + 19) / 20 * 20];
-        for (int index = 0; index < text.length(); index++) {
-            bytes[index] = (byte) text.charAt(index);
-        }
-        java.nio.ByteBuffer words = java.nio.ByteBuffer.wrap(bytes);
-        while (words.hasRemaining()) {
-            Object[] five = new Object[5];
-            for (int word = 0; word < 5; word++) {
-                five[word] = words.getInt();
-            }
-            compare("appendInput", "appendInput", five);
-        }
-        compare("truncateInput", "truncateInput", new Object[] {Math.min(text.length(), 700)});
     }
 
     private String setup() {
@@ -147,7 +154,7 @@ public final class ModelTest {
         for (int index = 1; index < parts.length; index++) {
             values[index - 1] = argument(parts[index].charAt(0));
         }
-        compare("run " + run + " step " + number + " " + method + " " + java.util.Arrays.toString(values), parts[0], values);
+        twins.compare("run " + run + " step " + number + " " + method + " " + java.util.Arrays.toString(values), parts[0], values);
     }
 
     private Object argument(char kind) {
@@ -162,6 +169,7 @@ public final class ModelTest {
             case 'm' -> random.nextInt(7) - 2;
             case 'f' -> wild ? random.nextInt(36) - 3 : random.nextInt(floors);
             case 't' -> wild ? random.nextInt(600) - 20 : 1 + random.nextInt(random.nextInt(40) + 1);
+            case 'u' -> 1 + random.nextInt(3);
             case 'T' -> wild ? random.nextInt(600) - 20 : 1 + random.nextInt(120);
             case 's' -> random.nextInt(7) - 1;
             case 'v' -> random.nextInt(random.nextBoolean() ? 8 : 110) - 1;
@@ -169,50 +177,26 @@ public final class ModelTest {
         };
     }
 
-    private void compare(String what, String method, Object[] values) {
-        due.isText(what, answer(lifts, REAL, method, values), answer(plain, PLAIN, method, values));
-    }
-
-    private static Map<String, Method> publicMethods(Class<?> type) {
-        Map<String, Method> found = new HashMap<>();
-        for (Method method : type.getDeclaredMethods()) {
-            if (Modifier.isPublic(method.getModifiers())) {
-                found.put(method.getName(), method);
-            }
-        }
-        return found;
-    }
-
-    private static String answer(Object asked, Map<String, Method> methods, String name, Object[] values) {
-        try {
-            return String.valueOf(methods.get(name).invoke(asked, values));
-        } catch (InvocationTargetException thrown) {
-            return "throws " + thrown.getCause().getClass().getName();
-        } catch (IllegalAccessException never) {
-            throw new AssertionError(never);
-        }
-    }
-
     private void askAll(int run, int number) {
         String what = "run " + run + " behind step " + number + " ";
         for (int index = 0; index <= 13; index++) {
-            compare(what + "count " + index, "count", new Object[] {index});
+            twins.compare(what + "count " + index, "count", index);
         }
         for (int kind = 0; kind <= 3; kind++) {
-            compare(what + "sent " + kind, "messages", new Object[] {kind, false});
-            compare(what + "lost " + kind, "messages", new Object[] {kind, true});
-            compare(what + "nobody " + kind, "nobody", new Object[] {kind + 1});
+            twins.compare(what + "sent " + kind, "messages", kind, false);
+            twins.compare(what + "lost " + kind, "messages", kind, true);
+            twins.compare(what + "nobody " + kind, "nobody", kind + 1);
         }
         for (int car = 0; car < lifts.count(1); car++) {
             for (int index = 0; index <= 9; index++) {
-                compare(what + "car " + car + " " + index, "car", new Object[] {car, index});
+                twins.compare(what + "car " + car + " " + index, "car", car, index);
             }
-            compare(what + "goal " + car, "goal", new Object[] {car});
-            compare(what + "riders " + car, "riders", new Object[] {car});
+            twins.compare(what + "goal " + car, "goal", car);
+            twins.compare(what + "riders " + car, "riders", car);
         }
         for (int call = 0; call < lifts.count(2); call++) {
             for (int index = 0; index <= 10; index++) {
-                compare(what + "call " + call + " " + index, "call", new Object[] {call, index});
+                twins.compare(what + "call " + call + " " + index, "call", call, index);
             }
             for (int car = 0; car < lifts.count(1); car++) {
                 askBoth(what + "car " + car + " call " + call + " ", car, call);
@@ -222,13 +206,13 @@ public final class ModelTest {
 
     private void askBoth(String what, int car, int call) {
         for (String method : new String[] {"holds", "ownCost", "decides", "knownBest"}) {
-            compare(what + method, method, new Object[] {car, call});
+            twins.compare(what + method, method, car, call);
         }
         for (int kind = 0; kind <= 3; kind++) {
-            compare(what + "hasLost " + kind, "hasLost", new Object[] {car, call, kind});
+            twins.compare(what + "hasLost " + kind, "hasLost", car, call, kind);
         }
         for (int other = 0; other < lifts.count(1); other++) {
-            compare(what + "noted " + other, "noted", new Object[] {car, call, other});
+            twins.compare(what + "noted " + other, "noted", car, call, other);
         }
     }
 }
