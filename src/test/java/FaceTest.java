@@ -18,6 +18,12 @@ public final class FaceTest {
         + "doneIn(int):int nobodyIn(int):int bestNoise(int):int wouldWait(int,int):int bestPatience(int):int "
         + "printCar(int):int outputByte(int):int undo():int saveState():int restoreState():int";
 
+    // The methods with exceptions: I an index, A an argument, S a state, N no such element.
+    private static final String THROWS = "count:A car:IA call:IA waitOf:I holds:I ownCost:I decides:I noted:I costNow:I "
+        + "held:IN goal:I messages:A hasLost:IA nobody:A makeCall:AS run:A setStopped:I setJammed:I set:A forget:IS ride:I "
+        + "riders:I served:I knownBest:I cheapest:A claimLeft:I lateIn:A crowd:A meanCost:I aboardIn:IA doneIn:A "
+        + "nobodyIn:A bestNoise:A wouldWait:A bestPatience:A printCar:I restoreState:S";
+
     public static void main(String[] arguments) throws IllegalAccessException {
         Due due = new Due();
         due.promise(0, "the public face");
@@ -37,6 +43,7 @@ public final class FaceTest {
                 due.is("a private method named " + method.getName(), names.contains(method.getName()), false);
             }
         }
+        due.isText("the exceptions", exceptions().toString(), new TreeSet<>(Arrays.asList(THROWS.split(" "))).toString());
         due.is("constructors", BusLifts.class.getDeclaredConstructors().length, 1);
         due.is("the class is public and final", BusLifts.class.getModifiers(), Modifier.PUBLIC | Modifier.FINAL);
 
@@ -48,5 +55,29 @@ public final class FaceTest {
         }
         due.isText("the constants", fields.toString(), "[MISPLACED=3, NO_CAR=4, NO_ERROR=0, OUT_OF_RANGE=2, SYNTAX=1]");
         due.end();
+    }
+
+    private static TreeSet<String> exceptions() {
+        TreeSet<String> found = new TreeSet<>();
+        for (Method method : BusLifts.class.getDeclaredMethods()) {
+            if (Modifier.isPublic(method.getModifiers()) && method.getExceptionTypes().length > 0) {
+                StringBuilder signs = new StringBuilder(method.getName()).append(':');
+                for (Class<?> type : method.getExceptionTypes()) {
+                    signs.append(sign(type));
+                }
+                found.add(signs.toString());
+            }
+        }
+        return found;
+    }
+
+    private static String sign(Class<?> type) {
+        return switch (type.getName()) {
+            case "java.lang.IndexOutOfBoundsException" -> "I";
+            case "java.lang.IllegalArgumentException" -> "A";
+            case "java.lang.IllegalStateException" -> "S";
+            case "java.util.NoSuchElementException" -> "N";
+            default -> type.getName();
+        };
     }
 }
